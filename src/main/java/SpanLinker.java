@@ -242,7 +242,7 @@ public final class SpanLinker {
     }
 
     private static boolean hasName(int names, int name) {
-        return (names & setOf(name)) != 0;
+        return (names >> name & 1) != 0;
     }
 
     /** Numbers in an order, as many as there is room for. */
@@ -280,7 +280,7 @@ public final class SpanLinker {
         }
 
         boolean insert(int place, int number) {
-            if (count >= numbers.length || !isWithin(place, 0, count)) {
+            if (count >= numbers.length || place < 0 || place > count) {
                 return false;
             }
             for (int k = count; k > place; k--) {
@@ -653,10 +653,14 @@ public final class SpanLinker {
             if (total > IMAGE_WORDS) {
                 return false;
             }
+            // All exports first: a module may use a name of one that was included after it.
             for (int k = 0; k < inclusion.howMany(); k++) {
                 noteExports(inclusion.moduleAt(k));
             }
-            writeWords();
+            makeWordsZero();
+            for (int k = 0; k < inclusion.howMany(); k++) {
+                writeModule(inclusion.moduleAt(k));
+            }
             entry = want == NONE ? 0 : values[want];
             there = true;
             stripped = false;
@@ -755,12 +759,9 @@ public final class SpanLinker {
             return bases[module][source.sectionOf(k)] + source.placeOf(k);
         }
 
-        private void writeWords() {
+        private void makeWordsZero() {
             for (int address = 0; address < IMAGE_WORDS; address++) {
                 words[address] = 0;
-            }
-            for (int k = 0; k < inclusion.howMany(); k++) {
-                writeModule(inclusion.moduleAt(k));
             }
         }
 

@@ -10,6 +10,7 @@ public final class ImageTest {
         addressArithmetic(c);
         wrongArguments(c);
         imageIsKept(c);
+        nothingIsLeftOver(c);
         stripping(c);
         c.end();
     }
@@ -182,6 +183,22 @@ public final class ImageTest {
         c.due("run", x.run(2), 2);
         c.due("memory", x.memory(4), 77);
         c.due("word", x.word(4), 5);
+    }
+
+    private static void nothingIsLeftOver(Check c) {
+        SpanLinker x = new SpanLinker();
+        c.write(x, 0, Check.s(Check.NUMBER, 1), Check.s(Check.NUMBER, 2), Check.s(Check.NUMBER, 3),
+            Check.s(Check.LABEL, 1), Check.s(Check.GLOBAL, 1), Check.s(Check.COMMON, 2, 1));
+        x.item(0);
+        c.due("link", x.link(-1), 0);
+        x.clear(0);
+        c.write(x, 0, Check.s(Check.SPACE, 2), Check.s(Check.SECTION, Check.BSS), Check.s(Check.SPACE, 1));
+        c.due("link", x.link(-1), 0);
+        words(c, "new words", x, 0, 0, 0);
+        c.due("symbol(1)", x.symbol(1), -1);
+        c.due("symbol(2)", x.symbol(2), -1);
+        c.due("size(0)", x.size(0), 2);
+        c.due("size(2)", x.size(2), 1);
     }
 
     private static void stripping(Check c) {

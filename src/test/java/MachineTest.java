@@ -111,6 +111,10 @@ public final class MachineTest {
         c.due("the eighth word", x.register(5), 8);
         c.due("run", x.run(3), 3);
         c.due("the tape is empty", x.register(5), 0);
+        c.due("start", x.start(), true);
+        c.due("feed", x.feed(21), true);
+        c.due("run", x.run(3), 3);
+        c.due("a new tape is read from its beginning", x.register(5), 21);
     }
 
     private static void runArguments(Check c) {

@@ -90,14 +90,25 @@ public final class OperationsTest {
         for (int a : values) {
             for (int n = 0; n < 4096; n += 256) {
                 boolean jumps = holds(n / 256 % 4, a);
-                SpanLinker x = c.machineOf(OP, a, 8 * OP + n + 77, 50000);
-                c.due("long jump", x.run(2), 2);
-                c.registers("long, n " + n, x, a, 0, jumps ? 50000 : 4, RUNNING);
-                SpanLinker y = c.machineOf(OP, a, 9 * OP + n + 100);
-                c.due("short jump", y.run(2), 2);
-                c.registers("short, n " + n, y, a, 0, jumps ? 103 : 3, RUNNING);
+                longJump(c, n, a, jumps);
+                longJump(c, n + 255, a, jumps);
+                shortJump(c, n + 1, a, jumps ? 4 : 3);
+                shortJump(c, n + 100, a, jumps ? 103 : 3);
+                shortJump(c, n + 255, a, jumps ? 2 : 3);
             }
         }
+    }
+
+    private static void longJump(Check c, int n, int a, boolean jumps) {
+        SpanLinker x = c.machineOf(OP, a, 8 * OP + n, 50000);
+        c.due("long jump", x.run(2), 2);
+        c.registers("long, n " + n, x, a, 0, jumps ? 50000 : 4, RUNNING);
+    }
+
+    private static void shortJump(Check c, int n, int a, int pc) {
+        SpanLinker x = c.machineOf(OP, a, 9 * OP + n);
+        c.due("short jump", x.run(2), 2);
+        c.registers("short, n " + n, x, a, 0, pc, RUNNING);
     }
 
     private static void shortDistances(Check c) {
