@@ -5,8 +5,11 @@ import java.util.Random;
 
 /** Many runs of calls with fixed seeds, each answer compared with the one of PlainModel. */
 public final class AgainstModelTest {
-    private static final int RUNS = 3000;
+    private static final int RUNS = 15000;
+    /** The document promises no more calls of one object. */
     private static final int CALLS = 512;
+    /** The most calls that one round makes. */
+    private static final int ROUND = 32;
 
     private final Random random;
     private final SpanLinker x = new SpanLinker();
@@ -20,6 +23,7 @@ public final class AgainstModelTest {
     private boolean agrees = true;
     private static int linked;
     private static int steps;
+    private static int most;
     private static final int[] RESULTS = new int[5];
     private static final int[] STATES = new int[5];
 
@@ -45,19 +49,33 @@ public final class AgainstModelTest {
         }
         c.due("enough images", linked > RUNS, true);
         c.due("enough steps", steps > RUNS, true);
+        c.due("the most calls of one object", most, CALLS);
         System.out.println("links " + Arrays.toString(RESULTS) + ", states " + Arrays.toString(STATES));
         c.end();
     }
 
+    /** Modules are written and put somewhere, then come all kinds of calls; the rest looks around. */
     private boolean runs() {
-        for (int k = 0; k < CALLS && agrees; k++) {
+        int statements = random.nextInt(160);
+        while (agrees && calls.size() < statements) {
+            addStatement();
+        }
+        for (int k = random.nextInt(20); agrees && k > 0; k--) {
+            arrange();
+        }
+        int rounds = 250 + random.nextInt(CALLS - ROUND - 250);
+        while (agrees && calls.size() < rounds) {
             call();
+        }
+        for (int k = 0; agrees && calls.size() < CALLS; k++) {
+            lookOver(k);
         }
         return agrees;
     }
 
     private void same(String call, int got, int want) {
         calls.add(call + " = " + want);
+        most = Math.max(most, calls.size());
         if (got != want) {
             agrees = false;
             System.out.println(String.join("\n", calls));
@@ -84,13 +102,13 @@ public final class AgainstModelTest {
 
     private void call() {
         int kind = random.nextInt(100);
-        if (kind < 42) {
+        if (kind < 30) {
             addStatement();
-        } else if (kind < 54) {
+        } else if (kind < 50) {
             arrange();
-        } else if (kind < 62) {
+        } else if (kind < 65) {
             linkAndLook();
-        } else if (kind < 80) {
+        } else if (kind < 90) {
             useMachine();
         } else {
             look();
@@ -157,26 +175,53 @@ public final class AgainstModelTest {
         same("missing()", x.missing(), y.missing());
         RESULTS[-result]++;
         linked += result == 0 ? 1 : 0;
-        for (int k = -1; k < 7; k++) {
-            same("included(" + k + ")", x.included(k), y.included(k));
+        for (int k = 0; k < 3; k++) {
+            int at = random.nextInt(8) - 1;
+            same("included(" + at + ")", x.included(at), y.included(at));
+            same("size(" + k + ")", x.size(k), y.size(k));
         }
-        wholeImage();
+        for (int k = 0; k < 6; k++) {
+            int address = nearAddress();
+            same("word(" + address + ")", x.word(address), y.word(address));
+            int name = name();
+            same("symbol(" + name + ")", x.symbol(name), y.symbol(name));
+        }
         if (random.nextInt(4) != 0) {
             same("start()", x.start(), y.start());
         }
     }
 
-    private void wholeImage() {
-        for (int address = -1; address < 202; address++) {
-            same("word(" + address + ")", x.word(address), y.word(address));
-        }
-        for (int k = -1; k < 17; k++) {
-            same("symbol(" + k + ")", x.symbol(k), y.symbol(k));
-            same("size(" + k + ")", x.size(k), y.size(k));
+    /** An address of the image, or one of those just behind it. */
+    private int nearAddress() {
+        int words = Math.max(0, y.size(0) + y.size(1) + y.size(2));
+        return random.nextInt(words + 2);
+    }
+
+    private void lookOver(int k) {
+        switch (random.nextInt(4)) {
+            case 0:
+                same("word(" + k / 2 + ")", x.word(k / 2), y.word(k / 2));
+                break;
+            case 1:
+                same("memory(" + k / 2 + ")", x.memory(k / 2), y.memory(k / 2));
+                break;
+            case 2:
+                int m = random.nextInt(6);
+                int at = random.nextInt(20);
+                same("isLong(" + m + ", " + at + ")", x.isLong(m, at), y.isLong(m, at));
+                break;
+            default:
+                int address = nearAddress();
+                same("memory(" + address + ")", x.memory(address), y.memory(address));
+                break;
         }
     }
 
     private void useMachine() {
+        if (y.register(3) < 0 && random.nextInt(4) != 0) {
+            linkAndLook();
+            return;
+        }
         int v = wild(0, 65535);
         int n = random.nextInt(3) == 0 ? wild(0, 1000) : random.nextInt(8);
         switch (random.nextInt(8)) {
@@ -201,10 +246,13 @@ public final class AgainstModelTest {
     }
 
     private void registersAndMemory() {
-        for (int k = -1; k < 10; k++) {
+        for (int k = 0; k < 6; k++) {
             same("register(" + k + ")", x.register(k), y.register(k));
         }
-        for (int address = -1; address < 202; address++) {
+        int k = wild(6, 8);
+        same("register(" + k + ")", x.register(k), y.register(k));
+        for (int look = 0; look < 4; look++) {
+            int address = nearAddress();
             same("memory(" + address + ")", x.memory(address), y.memory(address));
         }
     }

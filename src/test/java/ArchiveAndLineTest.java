@@ -13,27 +13,17 @@ public final class ArchiveAndLineTest {
         c.end();
     }
 
-    private static void members(Check c, String when, SpanLinker x, int... due) {
-        for (int k = 0; k < due.length; k++) {
-            c.due(when + ": member(" + k + ")", x.member(k), due[k]);
-        }
-        c.due(when + ": behind the last", x.member(due.length), -1);
-        c.due(when + ": member(-1)", x.member(-1), -1);
-        c.due(when + ": member(MIN)", x.member(Integer.MIN_VALUE), -1);
-        c.due(when + ": member(MAX)", x.member(Integer.MAX_VALUE), -1);
-    }
-
     private static void storing(Check c) {
         SpanLinker x = new SpanLinker();
         c.due("store(3, -1)", x.store(3, -1), true);
         c.due("store(0, -1)", x.store(0, -1), true);
-        members(c, "at the end", x, 3, 0);
+        c.members("at the end", x, 3, 0);
         c.due("store(5, 3)", x.store(5, 3), true);
         c.due("store(1, 0)", x.store(1, 0), true);
-        members(c, "in front", x, 5, 3, 1, 0);
+        c.members("in front", x, 5, 3, 1, 0);
         c.due("store(2, 1)", x.store(2, 1), true);
         c.due("store(4, -1)", x.store(4, -1), true);
-        members(c, "all six", x, 5, 3, 2, 1, 0, 4);
+        c.members("all six", x, 5, 3, 2, 1, 0, 4);
     }
 
     private static void movingMembers(Check c) {
@@ -42,17 +32,17 @@ public final class ArchiveAndLineTest {
             x.store(module, -1);
         }
         c.due("store(0, -1)", x.store(0, -1), true);
-        members(c, "to the end", x, 1, 2, 3, 4, 5, 0);
+        c.members("to the end", x, 1, 2, 3, 4, 5, 0);
         c.due("store(0, -1) again", x.store(0, -1), true);
-        members(c, "stays at the end", x, 1, 2, 3, 4, 5, 0);
+        c.members("stays at the end", x, 1, 2, 3, 4, 5, 0);
         c.due("store(5, 2)", x.store(5, 2), true);
-        members(c, "forward", x, 1, 5, 2, 3, 4, 0);
+        c.members("forward", x, 1, 5, 2, 3, 4, 0);
         c.due("store(5, 0)", x.store(5, 0), true);
-        members(c, "backward", x, 1, 2, 3, 4, 5, 0);
+        c.members("backward", x, 1, 2, 3, 4, 5, 0);
         c.due("store(1, 2)", x.store(1, 2), true);
-        members(c, "in front of its neighbour", x, 1, 2, 3, 4, 5, 0);
+        c.members("in front of its neighbour", x, 1, 2, 3, 4, 5, 0);
         c.due("store(0, 1)", x.store(0, 1), true);
-        members(c, "to the front", x, 0, 1, 2, 3, 4, 5);
+        c.members("to the front", x, 0, 1, 2, 3, 4, 5);
     }
 
     private static void refusedStores(Check c) {
@@ -74,7 +64,7 @@ public final class ArchiveAndLineTest {
         c.due("in front of -2", x.store(3, -2), false);
         c.due("in front of 6", x.store(3, 6), false);
         c.due("in front of MAX", x.store(3, Integer.MAX_VALUE), false);
-        members(c, "after refusals", x, 2, 4);
+        c.members("after refusals", x, 2, 4);
     }
 
     private static void removing(Check c) {
@@ -88,17 +78,17 @@ public final class ArchiveAndLineTest {
         }
         c.due("remove what is on the line", x.remove(5), false);
         c.due("remove(2)", x.remove(2), true);
-        members(c, "without 2", x, 0, 1, 3, 4);
+        c.members("without 2", x, 0, 1, 3, 4);
         c.due("remove(2) again", x.remove(2), false);
         c.due("remove(0)", x.remove(0), true);
         c.due("remove(4)", x.remove(4), true);
-        members(c, "without 0 and 4", x, 1, 3);
+        c.members("without 0 and 4", x, 1, 3);
         c.due("in front of a removed one", x.store(0, 4), false);
         c.due("remove(1)", x.remove(1), true);
         c.due("remove(3)", x.remove(3), true);
-        members(c, "empty", x);
+        c.members("empty", x);
         c.due("store again", x.store(2, -1), true);
-        members(c, "one", x, 2);
+        c.members("one", x, 2);
         c.due("a removed one keeps its statements", x.add(2, Check.NUMBER, 1, 0), true);
         x.remove(2);
         c.due("its length", x.length(2, 0), 1);

@@ -15,13 +15,6 @@ public final class ImageTest {
         c.end();
     }
 
-    private static void words(Check c, String when, SpanLinker x, int... due) {
-        for (int address = 0; address < due.length; address++) {
-            c.due(when + ": word(" + address + ")", x.word(address), due[address]);
-        }
-        c.due(when + ": behind the last", x.word(due.length), -1);
-    }
-
     private static void layout(Check c) {
         SpanLinker x = new SpanLinker();
         c.write(x, 0, Check.s(Check.SECTION, Check.BSS), Check.s(Check.LABEL, 0), Check.s(Check.GLOBAL, 0),
@@ -37,7 +30,7 @@ public final class ImageTest {
         x.item(0);
         x.item(1);
         c.due("link", x.link(-1), 0);
-        words(c, "layout", x, 11, 14, 21, 0, 0, 12, 13, 0, 22, 0, 0, 0, 0, 0, 0, 0, 0, 0, 0);
+        c.words("layout", x, 11, 14, 21, 0, 0, 12, 13, 0, 22, 0, 0, 0, 0, 0, 0, 0, 0, 0, 0);
         c.due("size(0)", x.size(0), 5);
         c.due("size(1)", x.size(1), 4);
         c.due("size(2)", x.size(2), 10);
@@ -60,7 +53,7 @@ public final class ImageTest {
         x.item(Check.ARCHIVE);
         x.item(1);
         c.due("link", x.link(-1), 0);
-        words(c, "2, 0, 1", x, 102, 100, 101, 202, 1, 200, 201);
+        c.words("2, 0, 1", x, 102, 100, 101, 202, 1, 200, 201);
         c.due("symbol(0)", x.symbol(0), 1);
         c.due("symbol(1)", x.symbol(1), 2);
         c.due("symbol(2)", x.symbol(2), 0);
@@ -103,7 +96,7 @@ public final class ImageTest {
         c.due("link", x.link(-1), 0);
         c.due("exported: the label", x.symbol(1), 4);
         c.due("no words", x.size(2), 0);
-        words(c, "exported", x, 4, 8 * 4096, 4, 5, 6);
+        c.words("exported", x, 4, 8 * 4096, 4, 5, 6);
     }
 
     private static void whatNamesStandFor(Check c) {
@@ -119,7 +112,7 @@ public final class ImageTest {
         x.item(1);
         x.item(2);
         c.due("link", x.link(-1), 0);
-        words(c, "names", x, 9, 1, 40000, 9, 4, 40001, 7, 4, 3, 0);
+        c.words("names", x, 9, 1, 40000, 9, 4, 40001, 7, 4, 3, 0);
         c.due("the exported label", x.symbol(1), 4);
         c.due("the exported VALUE", x.symbol(2), 40000);
         c.due("the COMMON", x.symbol(3), 9);
@@ -133,7 +126,7 @@ public final class ImageTest {
             Check.s(Check.ADDRESS, 2, -32768), Check.s(Check.ADDRESS, 3, 32767), Check.s(Check.ADDRESS, 3, -32768));
         x.item(0);
         c.due("link", x.link(-1), 0);
-        words(c, "modulo 65536", x, 0, 32766, 65535, 32768, 7231, 7232);
+        c.words("modulo 65536", x, 0, 32766, 65535, 32768, 7231, 7232);
     }
 
     private static void wrongArguments(Check c) {
@@ -168,10 +161,10 @@ public final class ImageTest {
         c.due("link", x.link(1), 0);
         c.write(x, 0, Check.s(Check.SECTION, Check.TEXT), Check.s(Check.NUMBER, 4));
         c.due("size", x.size(0), 1);
-        words(c, "after add", x, 9 * 4096, 3);
+        c.words("after add", x, 9 * 4096, 3);
         x.clear(0);
         x.newLine();
-        words(c, "after clear", x, 9 * 4096, 3);
+        c.words("after clear", x, 9 * 4096, 3);
         c.due("symbol", x.symbol(1), 1);
         c.due("start", x.start(), true);
         c.due("PC", x.register(2), 1);
@@ -194,7 +187,7 @@ public final class ImageTest {
         x.clear(0);
         c.write(x, 0, Check.s(Check.SPACE, 2), Check.s(Check.SECTION, Check.BSS), Check.s(Check.SPACE, 1));
         c.due("link", x.link(-1), 0);
-        words(c, "new words", x, 0, 0, 0);
+        c.words("new words", x, 0, 0, 0);
         c.due("symbol(1)", x.symbol(1), -1);
         c.due("symbol(2)", x.symbol(2), -1);
         c.due("size(0)", x.size(0), 2);
@@ -214,7 +207,7 @@ public final class ImageTest {
         c.due("symbol(1)", x.symbol(1), -1);
         c.due("symbol(2)", x.symbol(2), -1);
         c.due("size", x.size(2), 3);
-        words(c, "stripped", x, 40960, 0, 0, 0, 0);
+        c.words("stripped", x, 40960, 0, 0, 0, 0);
         c.due("included", x.included(0), 0);
         c.due("the machine stays", x.register(2), 1);
         c.due("run", x.run(5), 1);

@@ -16,20 +16,6 @@ public final class LinkTest {
         c.end();
     }
 
-    private static void included(Check c, String when, SpanLinker x, int... due) {
-        for (int k = 0; k < due.length; k++) {
-            c.due(when + ": included(" + k + ")", x.included(k), due[k]);
-        }
-        int[] none = {due.length, 6, -1, Integer.MIN_VALUE, Integer.MAX_VALUE};
-        for (int k : none) {
-            c.due(when + ": included(" + k + ")", x.included(k), -1);
-        }
-    }
-
-    private static void export(Check c, SpanLinker x, int module, int name) {
-        c.write(x, module, Check.s(Check.LABEL, name), Check.s(Check.GLOBAL, name));
-    }
-
     private static void refusedLink(Check c) {
         SpanLinker x = new SpanLinker();
         c.write(x, 0, Check.s(Check.NUMBER, 4096), Check.s(Check.NUMBER, 9));
@@ -42,7 +28,7 @@ public final class LinkTest {
         }
         c.due("the image stays", x.word(1), 9);
         c.due("the machine stays", x.register(0), 9);
-        included(c, "refused", x, 0);
+        c.included("refused", x, 0);
         c.due("missing", x.missing(), 0);
         c.due("a link that fails", x.link(15), SpanLinker.UNDEFINED);
         x.link(16);
@@ -87,8 +73,8 @@ public final class LinkTest {
         c.due("missing", x.missing(), 2 + 4 + 8 + 16);
         c.due("a COMMON is given", x.link(5), SpanLinker.UNDEFINED);
         c.due("missing", x.missing(), 2 + 4 + 8);
-        export(c, x, 1, 1);
-        export(c, x, 1, 2);
+        c.export(x, 1, 1);
+        c.export(x, 1, 2);
         c.write(x, 2, Check.s(Check.COMMON, 3, 2));
         x.item(1);
         x.item(2);
@@ -96,54 +82,54 @@ public final class LinkTest {
         c.due("missing", x.missing(), 0);
         c.due("the change of a module tells later", x.clear(1), 4);
         c.due("missing of the latest link", x.missing(), 0);
-        included(c, "all", x, 0, 1, 2);
+        c.included("all", x, 0, 1, 2);
     }
 
     /** Each member wants a name of the member in front of it, so each pass includes one. */
     private static void archivePasses(Check c) {
         SpanLinker x = new SpanLinker();
         for (int module = 0; module < 6; module++) {
-            export(c, x, module, module);
+            c.export(x, module, module);
             c.write(x, module, Check.s(Check.ADDRESS, module == 0 ? 0 : module - 1, 0));
             c.due("store", x.store(module, -1), true);
         }
         x.item(Check.ARCHIVE);
         c.due("link(5)", x.link(5), 0);
-        included(c, "six passes", x, 5, 4, 3, 2, 1, 0);
+        c.included("six passes", x, 5, 4, 3, 2, 1, 0);
         c.due("link(2)", x.link(2), 0);
-        included(c, "three passes", x, 2, 1, 0);
+        c.included("three passes", x, 2, 1, 0);
         c.due("link(-1)", x.link(-1), 0);
-        included(c, "nothing wanted", x);
+        c.included("nothing wanted", x);
         c.due("link(9)", x.link(9), SpanLinker.UNDEFINED);
-        included(c, "not there", x);
+        c.included("not there", x);
     }
 
     /** What is wanted changes inside of one pass. */
     private static void wantedThen(Check c) {
         SpanLinker x = new SpanLinker();
-        export(c, x, 0, 1);
+        c.export(x, 0, 1);
         c.write(x, 0, Check.s(Check.JUMP, 2, 0));
-        export(c, x, 1, 2);
-        export(c, x, 2, 1);
-        export(c, x, 3, 2);
+        c.export(x, 1, 2);
+        c.export(x, 2, 1);
+        c.export(x, 3, 2);
         for (int module = 0; module < 4; module++) {
             x.store(module, -1);
         }
         x.item(Check.ARCHIVE);
         c.due("link(1)", x.link(1), 0);
-        included(c, "the second export is not wanted", x, 0, 1);
+        c.included("the second export is not wanted", x, 0, 1);
         x.store(3, 0);
         c.due("link(1)", x.link(1), 0);
-        included(c, "3 was gone over before it was wanted", x, 0, 1);
+        c.included("3 was gone over before it was wanted", x, 0, 1);
         x.store(3, 1);
         c.due("link(1)", x.link(1), 0);
-        included(c, "3 comes first now", x, 0, 3);
+        c.included("3 comes first now", x, 0, 3);
     }
 
     private static void archiveOnTheLineTwice(Check c) {
         SpanLinker x = new SpanLinker();
-        export(c, x, 0, 1);
-        export(c, x, 1, 2);
+        c.export(x, 0, 1);
+        c.export(x, 1, 2);
         c.write(x, 2, Check.s(Check.ADDRESS, 1, 0));
         c.write(x, 3, Check.s(Check.ADDRESS, 2, 0));
         x.store(0, -1);
@@ -152,7 +138,7 @@ public final class LinkTest {
         x.item(2);
         c.due("the archive came too early", x.link(-1), SpanLinker.UNDEFINED);
         c.due("missing", x.missing(), 2);
-        included(c, "too early", x, 2);
+        c.included("too early", x, 2);
         x.item(Check.ARCHIVE);
         x.item(3);
         c.due("once too early", x.link(-1), SpanLinker.UNDEFINED);
@@ -160,12 +146,12 @@ public final class LinkTest {
         x.item(Check.ARCHIVE);
         x.item(Check.ARCHIVE);
         c.due("found", x.link(-1), 0);
-        included(c, "in the order of the line", x, 2, 0, 3, 1);
+        c.included("in the order of the line", x, 2, 0, 3, 1);
     }
 
     private static void commonsStopTheSearch(Check c) {
         SpanLinker x = new SpanLinker();
-        export(c, x, 0, 1);
+        c.export(x, 0, 1);
         c.write(x, 1, Check.s(Check.COMMON, 1, 2));
         c.write(x, 2, Check.s(Check.GLOBAL, 1));
         x.store(0, -1);
@@ -173,20 +159,20 @@ public final class LinkTest {
         x.item(1);
         x.item(Check.ARCHIVE);
         c.due("link", x.link(1), 0);
-        included(c, "a COMMON is not wanted", x, 2, 1);
+        c.included("a COMMON is not wanted", x, 2, 1);
         x.newLine();
         x.item(2);
         x.item(Check.ARCHIVE);
         x.item(1);
         c.due("link", x.link(-1), 0);
-        included(c, "the COMMON came later", x, 2, 0, 1);
+        c.included("the COMMON came later", x, 2, 0, 1);
         x.newLine();
         x.remove(0);
         x.store(1, -1);
         x.item(2);
         x.item(Check.ARCHIVE);
         c.due("a COMMON is no export", x.link(-1), SpanLinker.UNDEFINED);
-        included(c, "the member with the COMMON stays out", x, 2);
+        c.included("the member with the COMMON stays out", x, 2);
     }
 
     private static void localNamesDoNotExport(Check c) {
@@ -198,17 +184,17 @@ public final class LinkTest {
         x.store(1, -1);
         x.item(Check.ARCHIVE);
         c.due("a label that is not global, a global that is not defined", x.link(1), SpanLinker.UNDEFINED);
-        included(c, "none", x);
+        c.included("none", x);
         x.store(2, -1);
         c.due("a global VALUE", x.link(1), 0);
-        included(c, "the VALUE's module", x, 2);
+        c.included("the VALUE's module", x, 2);
     }
 
     private static void doubles(Check c) {
         SpanLinker x = new SpanLinker();
-        export(c, x, 0, 1);
-        export(c, x, 1, 1);
-        export(c, x, 1, 2);
+        c.export(x, 0, 1);
+        c.export(x, 1, 1);
+        c.export(x, 1, 2);
         c.write(x, 2, Check.s(Check.LABEL, 1), Check.s(Check.COMMON, 2, 1));
         c.write(x, 3, Check.s(Check.ADDRESS, 2, 0), Check.s(Check.ADDRESS, 7, 0));
         x.item(0);
@@ -216,7 +202,7 @@ public final class LinkTest {
         c.due("a local label is no second", x.link(-1), 0);
         x.item(1);
         c.due("two exports", x.link(-1), SpanLinker.DOUBLE);
-        included(c, "double", x, 0, 2, 1);
+        c.included("double", x, 0, 2, 1);
         c.due("missing", x.missing(), 0);
         c.due("size", x.size(0), -1);
         x.item(3);
@@ -229,7 +215,7 @@ public final class LinkTest {
         x.item(Check.ARCHIVE);
         c.write(x, 0, Check.s(Check.COMMON, 7, 1));
         c.due("a member brings the second", x.link(-1), SpanLinker.DOUBLE);
-        included(c, "a member", x, 0, 3, 1);
+        c.included("a member", x, 0, 3, 1);
         for (int k = 0; k < 6; k++) {
             c.write(x, 0, Check.s(Check.SPACE, 16));
             c.write(x, 3, Check.s(Check.SPACE, 16));
@@ -237,7 +223,7 @@ public final class LinkTest {
         }
         c.due("DOUBLE goes before LONG", x.link(-1), SpanLinker.DOUBLE);
         x.clear(1);
-        export(c, x, 1, 2);
+        c.export(x, 1, 2);
         c.due("no longer double", x.link(-1), 0);
     }
 
@@ -259,7 +245,7 @@ public final class LinkTest {
         c.due("no image", x.word(0), -1);
         c.due("no size", x.size(0), -1);
         c.due("missing", x.missing(), 0);
-        included(c, "long", x, 0, 1, 2, 3, 4);
+        c.included("long", x, 0, 1, 2, 3, 4);
         c.write(x, 4, Check.s(Check.ADDRESS, 9, 0));
         c.due("UNDEFINED goes before LONG", x.link(-1), SpanLinker.UNDEFINED);
         x.clear(4);
@@ -279,7 +265,7 @@ public final class LinkTest {
 
     private static void failedLinksTell(Check c) {
         SpanLinker x = new SpanLinker();
-        export(c, x, 0, 1);
+        c.export(x, 0, 1);
         c.write(x, 1, Check.s(Check.ADDRESS, 1, 0));
         x.item(0);
         x.item(1);
@@ -287,13 +273,13 @@ public final class LinkTest {
         x.newLine();
         x.item(1);
         c.due("link", x.link(0), SpanLinker.UNDEFINED);
-        included(c, "of the latest", x, 1);
+        c.included("of the latest", x, 1);
         c.due("missing of the latest", x.missing(), 3);
         x.newLine();
         c.due("newLine does not change missing", x.missing(), 3);
-        included(c, "newLine", x, 1);
+        c.included("newLine", x, 1);
         c.due("link", x.link(-1), 0);
         c.due("missing of the latest", x.missing(), 0);
-        included(c, "none", x);
+        c.included("none", x);
     }
 }

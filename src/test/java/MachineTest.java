@@ -1,9 +1,5 @@
 /** Promises 18 (start), 19 (feed), 20 (run), 21 (register) and 22 (memory). */
 public final class MachineTest {
-    private static final int RUNNING = 0;
-    private static final int HALTED = 1;
-    private static final int ILLEGAL = 2;
-    private static final int OUTSIDE = 3;
 
     public static void main(String[] args) {
         Check c = new Check();
@@ -24,20 +20,20 @@ public final class MachineTest {
         c.write(x, 0, Check.s(Check.SPACE, 5), Check.s(Check.LABEL, 3), Check.s(Check.GLOBAL, 3),
             Check.s(Check.VALUE, 4, 65535), Check.s(Check.GLOBAL, 4), Check.s(Check.COMMON, 5, 2));
         c.linkAndStart(x, 3, 0);
-        c.registers("a label", x, 0, 0, 5, RUNNING);
+        c.registers("a label", x, 0, 0, 5, Check.RUNNING);
         c.due("put out", x.register(4), 0);
         c.due("link", x.link(4), 0);
         c.due("start", x.start(), true);
-        c.registers("a VALUE", x, 0, 0, 65535, RUNNING);
+        c.registers("a VALUE", x, 0, 0, 65535, Check.RUNNING);
         c.due("far out", x.run(1), 0);
-        c.registers("a VALUE outside", x, 0, 0, 65535, OUTSIDE);
+        c.registers("a VALUE outside", x, 0, 0, 65535, Check.OUTSIDE);
         c.due("link", x.link(5), 0);
         c.due("start", x.start(), true);
-        c.registers("a COMMON", x, 0, 0, 5, RUNNING);
+        c.registers("a COMMON", x, 0, 0, 5, Check.RUNNING);
         c.due("the COMMON's words halt", x.run(9), 1);
         c.due("link", x.link(-1), 0);
         c.due("start", x.start(), true);
-        c.registers("no name", x, 0, 0, 0, RUNNING);
+        c.registers("no name", x, 0, 0, 0, Check.RUNNING);
     }
 
     private static void startingAgain(Check c) {
@@ -51,12 +47,12 @@ public final class MachineTest {
         c.linkAndStart(x, -1, 0);
         c.due("feed", x.feed(50), true);
         c.due("run", x.run(1000), 6);
-        c.registers("halted", x, 50, 2, 10, HALTED);
+        c.registers("halted", x, 50, 2, 10, Check.HALTED);
         c.due("memory", x.memory(11), 7);
         c.due("put out", x.register(4), 1);
         c.due("the latest", x.register(5), 7);
         c.due("start again", x.start(), true);
-        c.registers("new", x, 0, 0, 0, RUNNING);
+        c.registers("new", x, 0, 0, 0, Check.RUNNING);
         c.due("memory as linked", x.memory(11), 99);
         c.due("nothing put out", x.register(4), 0);
         c.due("no latest", x.register(5), -1);
@@ -65,7 +61,7 @@ public final class MachineTest {
         }
         c.due("start", x.start(), true);
         c.due("run", x.run(1000), 6);
-        c.registers("an empty tape", x, 0, 2, 10, HALTED);
+        c.registers("an empty tape", x, 0, 2, 10, Check.HALTED);
     }
 
     private static void feeding(Check c) {
@@ -81,7 +77,7 @@ public final class MachineTest {
         c.due("feed(65535)", x.feed(65535), true);
         c.due("feed(0)", x.feed(0), true);
         c.due("run", x.run(1), 1);
-        c.registers("taken", x, 65535, 0, 1, RUNNING);
+        c.registers("taken", x, 65535, 0, 1, Check.RUNNING);
         for (int k = 0; k < 6; k++) {
             c.due("feed", x.feed(k), true);
         }
@@ -127,29 +123,29 @@ public final class MachineTest {
         }
         c.due("run(0)", x.run(0), 0);
         c.due("run(1000)", x.run(1000), 1000);
-        c.registers("for ever", x, 0, 0, 0, RUNNING);
+        c.registers("for ever", x, 0, 0, 0, Check.RUNNING);
     }
 
     private static void stepsAreCounted(Check c) {
         SpanLinker x = c.machineOf(13 * 4096, 13 * 4096, 0);
         c.due("run(2)", x.run(2), 2);
-        c.registers("not yet", x, 0, 0, 2, RUNNING);
+        c.registers("not yet", x, 0, 0, 2, Check.RUNNING);
         c.due("run(0)", x.run(0), 0);
-        c.registers("still", x, 0, 0, 2, RUNNING);
+        c.registers("still", x, 0, 0, 2, Check.RUNNING);
         c.due("HALT counts", x.run(1), 1);
-        c.registers("halted", x, 0, 0, 2, HALTED);
+        c.registers("halted", x, 0, 0, 2, Check.HALTED);
         c.due("no more", x.run(1000), 0);
         c.due("wrong n is refused all the same", x.run(1001), -1);
         SpanLinker y = c.machineOf(13 * 4096, 14 * 4096);
         c.due("ILLEGAL does not count", y.run(1000), 1);
-        c.registers("illegal", y, 0, 0, 1, ILLEGAL);
+        c.registers("illegal", y, 0, 0, 1, Check.ILLEGAL);
         c.due("it stays", y.run(1000), 0);
-        c.registers("illegal still", y, 0, 0, 1, ILLEGAL);
+        c.registers("illegal still", y, 0, 0, 1, Check.ILLEGAL);
         SpanLinker z = c.machineOf(13 * 4096);
         c.due("OUTSIDE does not count", z.run(1000), 1);
-        c.registers("outside", z, 0, 0, 1, OUTSIDE);
+        c.registers("outside", z, 0, 0, 1, Check.OUTSIDE);
         c.due("it stays", z.run(1000), 0);
-        c.registers("outside still", z, 0, 0, 1, OUTSIDE);
+        c.registers("outside still", z, 0, 0, 1, Check.OUTSIDE);
     }
 
     private static void haltingWords(Check c) {
@@ -157,13 +153,13 @@ public final class MachineTest {
         for (int w : halts) {
             SpanLinker x = c.machineOf(w);
             c.due("HALT " + w, x.run(1000), 1);
-            c.registers("HALT " + w, x, 0, 0, 0, HALTED);
+            c.registers("HALT " + w, x, 0, 0, 0, Check.HALTED);
         }
         int[] illegals = {14 * 4096, 15 * 4096 - 1, 15 * 4096, 65535};
         for (int w : illegals) {
             SpanLinker x = c.machineOf(w, 0, 0);
             c.due("ILLEGAL " + w, x.run(1000), 0);
-            c.registers("ILLEGAL " + w, x, 0, 0, 0, ILLEGAL);
+            c.registers("ILLEGAL " + w, x, 0, 0, 0, Check.ILLEGAL);
         }
     }
 
@@ -207,7 +203,7 @@ public final class MachineTest {
         c.due("start", x.start(), true);
         c.due("no words", x.memory(0), -1);
         c.due("run", x.run(1), 0);
-        c.registers("no words", x, 0, 0, 0, OUTSIDE);
+        c.registers("no words", x, 0, 0, 0, Check.OUTSIDE);
         c.due("nothing left of the machine before", x.memory(1), -1);
     }
 }
