@@ -142,8 +142,14 @@ public final class ImageEdgesTest extends Check {
         link(x, 1, 0, 1, 2, 3);
         words("its own first", x, 50000, 2, 9 * 4096 + 255, 7, 8 * 4096, 7, 50000, 8 * 4096, 50000);
         due("symbol", x.symbol(1), 50000);
-        due("start", x.start(), true);
-        due("PC is the exported one", x.register(2), 50000);
+        int[][] orders = {{0, 1, 2, 3}, {1, 0, 2, 3}, {2, 3, 1, 0}};
+        for (int[] order : orders) {
+            x.newLine();
+            link(x, 1, order);
+            due("symbol", x.symbol(1), 50000);
+            due("start", x.start(), true);
+            due("PC is the exported one", x.register(2), 50000);
+        }
     }
 
     private void inTheModuleThatExportsIt() {

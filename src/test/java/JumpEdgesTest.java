@@ -7,6 +7,7 @@ public final class JumpEdgesTest extends Check {
         t.nearest();
         t.otherSectionsDoNotCount();
         t.namesWithoutLabelInText();
+        t.labelsThatAreGlobalToo();
         t.laterStatements();
         t.pushedForward();
         t.pushedBackward();
@@ -130,6 +131,19 @@ public final class JumpEdgesTest extends Check {
             write(x, 0, s(SECTION, TEXT), s(JUMP, 1, 0));
             jump("backward", x, other.length + 1, true);
         }
+    }
+
+    private void labelsThatAreGlobalToo() {
+        sentence("defined by a LABEL in text of the same module: a global one, and one of other modules too");
+        SpanLinker x = new SpanLinker();
+        write(x, 0, s(JUMP, 1, 0), s(GLOBAL, 1), s(LABEL, 1), s(JUMP, 1, 0), s(JUMP, 2, 0), s(LABEL, 2));
+        write(x, 1, s(VALUE, 2, 99), s(GLOBAL, 2), s(COMMON, 1, 3), s(JUMP, 2, 0));
+        jump("forward", x, 0, false);
+        jump("backward", x, 3, false);
+        jump("a name that another module exports", x, 4, false);
+        items(x, 1, 0);
+        due("link", x.link(-1), 0);
+        words("its own labels", x, 8 * 4096, 99, 9 * 4096, 9 * 4096 + 255, 9 * 4096);
     }
 
     private void laterStatements() {

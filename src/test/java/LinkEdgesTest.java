@@ -369,6 +369,14 @@ public final class LinkEdgesTest extends Check {
             }
             noImage("double", x);
         }
+        SpanLinker apart = new SpanLinker();
+        export(apart, 2, 15);
+        export(apart, 3, 0);
+        write(apart, 3, s(VALUE, 15, 0));
+        export(apart, 0, 15);
+        items(apart, 2, 1, 3, 4, 0);
+        due("others stand between the two", apart.link(-1), DOUBLE);
+        included("double", apart, 2, 1, 3, 4, 0);
         SpanLinker y = new SpanLinker();
         export(y, 0, 1);
         export(y, 1, 2);

@@ -34,6 +34,7 @@ public final class StepEdgesTest extends Check {
         t.storeIntoText();
         t.anyWordIsFine();
         t.outsideChangesNothing();
+        t.lowBitsThatDoNotMatter();
         t.wordsThatAreWrittenAreRun();
         t.end();
     }
@@ -476,6 +477,42 @@ public final class StepEdgesTest extends Check {
                 }
             }
         }
+    }
+
+    private void lowBitsThatDoNotMatter() {
+        sentence("its operation is w / 4096, n is w % 4096: n counts for 8, 9 and 13 alone");
+        int[] values = {0, 5, 65535};
+        for (int a : values) {
+            for (int n = 0; n < 4096; n = n * 2 + 1) {
+                for (int condition = 0; condition < 4; condition++) {
+                    lowBits(a, n ^ 256 * condition);
+                }
+            }
+        }
+    }
+
+    private void lowBits(int a, int n) {
+        String when = "A is " + a + ", n is " + n;
+        SpanLinker x = withData(6 * OP + n, 4, n, 0, OP + n, a, 10 * OP + n, 3 * OP + n, 13, 7 * OP + n);
+        runs(x, 6, 6);
+        registers(when + ": call, load, put out, store, return, halt", x, a, 2, 2, HALTED);
+        due(when + ": put out", x.register(5), a);
+        due(when + ": stored", x.memory(13), a);
+        SpanLinker y = withData(OP + n, 4, 12 * OP + n, 2 * OP + n, 10, 4 * OP + n, 11, 5 * OP + n, 10, 11 * OP + n);
+        due(when + ": feed", y.feed(a), true);
+        runs(y, 2, 2);
+        registers(when + ": load at A", y, 10, 0, 3, RUNNING);
+        runs(y, 1, 1);
+        registers(when + ": load", y, 1000, 0, 5, RUNNING);
+        runs(y, 1, 1);
+        registers(when + ": add", y, 41000, 0, 7, RUNNING);
+        runs(y, 1, 1);
+        registers(when + ": subtract", y, 40000, 0, 9, RUNNING);
+        runs(y, 1, 1);
+        registers(when + ": take in", y, a, 0, 10, RUNNING);
+        SpanLinker z = withData(OP, a, 14 * OP + n);
+        runs(z, 2, 1);
+        registers(when + ": illegal", z, a, 0, 2, ILLEGAL);
     }
 
     private void wordsThatAreWrittenAreRun() {
