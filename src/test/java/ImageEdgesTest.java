@@ -4,6 +4,7 @@ public final class ImageEdgesTest extends Check {
         ImageEdgesTest t = new ImageEdgesTest();
         t.sumsOverTheEdge();
         t.addressesWithOffsets();
+        t.orderOfTheStatements();
         t.orderOfTheSections();
         t.commonsLeastNameFirst();
         t.zeroWords();
@@ -56,6 +57,21 @@ public final class ImageEdgesTest extends Check {
         due("the largest b", x.word(12), 32777);
         due("a COMMON", x.word(13), 20);
         due("a label in data", x.word(14), 0);
+    }
+
+    private void orderOfTheStatements() {
+        sentence("The words of a section lie one after the other in the order of the statements");
+        SpanLinker x = new SpanLinker();
+        for (int k = 0; k < 10; k++) {
+            write(x, 0, s(SECTION, k % 2 == 0 ? DATA : TEXT), s(NUMBER, 50 + k));
+        }
+        link(x, -1, 0);
+        words("full of sections", x, 51, 53, 55, 57, 59, 50, 52, 54, 56, 58);
+        x.clear(0);
+        write(x, 0, s(SPACE, 2), s(NUMBER, 7), s(JUMP, 1, 0), s(SECTION, DATA), s(NUMBER, 8), s(SECTION, TEXT),
+            s(NUMBER, 9), s(SPACE, 1), s(ADDRESS, 1, 0), s(VALUE, 1, 6), s(SECTION, DATA), s(SPACE, 1), s(NUMBER, 5));
+        due("link", x.link(-1), 0);
+        words("statements of one word, of more and of none", x, 0, 0, 7, 8 * 4096, 6, 9, 0, 6, 8, 0, 5);
     }
 
     private void orderOfTheSections() {
